@@ -39,7 +39,6 @@ public final class QuietByYard {
     private long traced;
 
     public QuietByYard() {
-        startAnew();
     }
 
     // ---- the house

@@ -470,6 +470,8 @@ public final class PromisesTest {
             yard.hour();
         }
         due("of a day, from 0", yard.waked(1), 8);
+        yard = at("g1 1;n0 60 5 6;n0 61 8 9;r0 0 23 60;");
+        due("MOST itself wakes nobody", yard.waked(1), 8);
         yard = at("n0 60 5 6;r0 7 23 0;r0 0 4 0;");
         due("all still", yard.waked(0), NONE);
         due("no hour", yard.waked(1), NONE);
@@ -503,6 +505,17 @@ public final class PromisesTest {
         yard.lay(0, 0);
         due("250 hours are too many", yard.through(0), NONE);
         due("no sheet", yard.through(1), NONE);
+        yard = at("g1 1;n0 50 0 0;s6 1 1 1;");
+        yard.lay(0, 0);
+        for (int i = 0; i < 24; i++) {
+            yard.hour();
+        }
+        due("5 worn and 5 a day: 241 hours", yard.through(0), NONE);
+        yard.hour();
+        due("behind one more: 240", yard.through(0), 240);
+        yard = at("g2 1;f1;n0 22 0 23;s2 1 1 1;");
+        yard.lay(0, 1);
+        due("19 is 1 for ten hours; then 20, as it is thinner, is 2", yard.through(0), 15);
         yard = at("g1 2;f1;n0 99 0 23;n1 99 0 23;s3 1 1 1;s3 1 1 1;");
         yard.lay(1, 0);
         yard.lay(0, 1);
@@ -544,9 +557,28 @@ public final class PromisesTest {
         due("two that do not touch", yard.toBuy(NONE), 2);
         due("the first on 1", yard.toBuy(0), 1);
         due("the second on 3: beside the first it would leak", yard.toBuy(1), 3);
+        yard.lay(0, 1);
+        due("what lies counts: one more", yard.toBuy(NONE), 1);
+        due("on 3", yard.toBuy(1), 3);
+        yard.undo();
+        yard.lay(0, 2);
+        due("beside what lies it would leak: none", yard.toBuy(NONE), NONE);
     }
 
     private static void promise18Ties() {
+        QuietByYard edge = at("g4 3;f1;n1 20 0 0;n10 20 0 0;s9 1 1 3;s9 1 1 4;s9 1 1 5;s9 1 1 6;r0 0 0 10;r11 0 0 10;");
+        due("in both corners", edge.toBuy(NONE), 7);
+        due("on the first cell", edge.toBuy(0), 0);
+        due("on the last cell", edge.toBuy(1), 11);
+        due("not sheet 2", edge.toBuy(2), -5);
+        due("not sheet 3", edge.toBuy(3), -5);
+        edge = at("g4 1;s1 1 1 1;s1 1 1 1;s1 1 1 1;s1 1 1 1;");
+        due("nothing is needed: not sheet 3", edge.toBuy(3), -5);
+        edge = at("g4 1;f1;n0 60 0 0;s10 1 1 1;r3 0 0 37;");
+        due("one sheet is not two", edge.toBuy(NONE), NONE);
+        edge = at("g2 1;f1;n1 20 0 0;s3 1 1 9;s3 1 1 9;s3 1 1 9;s9 1 1 9;r0 0 0 10;");
+        due("the last sheet", edge.toBuy(3), 0);
+        due("not the first", edge.toBuy(0), -5);
         QuietByYard yard = at("g3 1;f1;n0 20 0 0;s5 1 1 2;s5 1 1 2;r2 0 0 13;");
         due("of one price", yard.toBuy(NONE), 2);
         due("not laid ahead of laid: sheet 0 is not", yard.toBuy(0), -5);
@@ -630,7 +662,13 @@ public final class PromisesTest {
         yard.lay(0, 1);
         due("with the sheet on 1 it would be 5", yard.sources(), 0);
         yard.forget(0);
+        yard.hear(2, 1);
+        due("1 heard is one strength", yard.strengths(0), 1);
+        yard.lift(0);
+        yard.forget(0);
         yard.hear(2, 0);
+        due("0 heard: no sheet", yard.strengths(0), 10);
+        yard.lay(0, 1);
         due("0 heard: 1 to 20 at 0", yard.strengths(0), 20);
         due("0 heard: 1 to 5 at 1", yard.strengths(1), 5);
         due("0 heard where it is: none", yard.strengths(2), 0);
@@ -658,6 +696,9 @@ public final class PromisesTest {
         due("from the sheet", yard.hired(1, 2, 80), 85);
         due("onto the sheet", yard.hired(2, 1, 80), 95);
         due("99", yard.hired(0, 0, 99), 99);
+        due("an empty house", new QuietByYard().hired(0, 5, 1), 16);
+        due("up to the first cell", at("g3 3;f5;").hired(3, 0, 1), 6);
+        due("up from the last cell", at("g1 3;f5;").hired(2, 0, 1), 11);
         due("v 0", yard.hired(0, 0, 0), BAD);
         due("v 100", yard.hired(0, 0, 100), BAD);
         due("from 3", yard.hired(3, 0, 1), BAD);
@@ -678,6 +719,7 @@ public final class PromisesTest {
         due("it ends where it is heard", yard.way(3, 4, 24), NONE);
         due("it begins where it is heard", yard.way(4, 3, 24), NONE);
         due("no rooms", at("g4 3;").way(0, 11, 99), 5);
+        due("n 1", yard.way(0, 8, 1), 4);
         due("n 0", yard.way(0, 0, 0), BAD);
         due("n 100", yard.way(0, 0, 100), BAD);
         due("from 9", yard.way(9, 0, 1), BAD);
@@ -815,10 +857,35 @@ public final class PromisesTest {
             due("keep " + image, yard.keep(image), BAD);
             due("back " + image, yard.back(image), BAD);
         }
+        twoSheetsInAnImage();
         yard = at("");
         yard.keep(1);
         due("0 was not kept", yard.back(0), STATE);
         due("1 was", yard.back(1), 0);
+    }
+
+    private static void twoSheetsInAnImage() {
+        QuietByYard yard = at("g2 2;f20;n1 99 0 23;s1 1 1 1;s9 1 1 1;s2 2 1 1;");
+        yard.lay(2, 2);
+        yard.lay(1, 1);
+        yard.hour();
+        yard.keep(1);
+        yard.lift(1);
+        yard.turn(1);
+        yard.turn(2);
+        due("a deed undone", yard.undo(), 5);
+        due("two deeds undone", yard.undo(), 4);
+        due("worn by 99", yard.sheet(1, 5), 9);
+        due("worn by 99 less 22", yard.sheet(2, 5), 7);
+        yard.turn(1);
+        yard.turn(2);
+        yard.lift(2);
+        yard.back(1);
+        due("sheet 0 was not laid", yard.sheet(0, 4), NONE);
+        due("sheet 1 was on 1", yard.sheet(1, 4), 1);
+        due("sheet 2 was on 2", yard.sheet(2, 4), 2);
+        due("sheet 1 as worn", yard.sheet(1, 5), 9);
+        due("sheet 2 as worn", yard.sheet(2, 5), 7);
     }
 
     private static void promise32() {
