@@ -1,9 +1,15 @@
 /** Counts what was asked and what was not answered as due. */
 final class Due {
+    private static String sentence = "";
     private static int passed = 0;
     private static int failed = 0;
 
     private Due() {
+    }
+
+    /** The document's words that the next answers are asked for. */
+    static void sentence(String words) {
+        sentence = words;
     }
 
     static void due(String call, long got, long want) {
@@ -14,7 +20,8 @@ final class Due {
         failed++;
         // A broken program can fail everywhere: the first hundred are enough to see why.
         if (failed <= 100) {
-            System.out.println(call + " answered " + got + ", due is " + want);
+            String place = sentence.isEmpty() ? "" : "[" + sentence + "] ";
+            System.out.println(place + call + " answered " + got + ", due is " + want);
         }
     }
 
@@ -36,8 +43,27 @@ final class Due {
         return yard;
     }
 
-    static int failures() {
-        return failed;
+    /** A new object's answer to house() behind a text. */
+    static int answer(String letters) {
+        QuietByYard yard = new QuietByYard();
+        type(yard, letters);
+        return yard.house();
+    }
+
+    /** That a text has its fault at a place, and is kept. */
+    static void fault(String letters, int place) {
+        QuietByYard yard = new QuietByYard();
+        type(yard, letters);
+        due("house() of '" + letters + "'", yard.house(), -10 - place);
+        due("letters left of '" + letters + "'", yard.count(8), letters.length());
+    }
+
+    /** That a text is told: so many items. */
+    static void items(String letters, int items) {
+        QuietByYard yard = new QuietByYard();
+        type(yard, letters);
+        due("house() of '" + letters + "'", yard.house(), items);
+        due("letters left of '" + letters + "'", yard.count(8), 0);
     }
 
     static void end() {

@@ -32,8 +32,16 @@ public final class RulesTest {
         "int count(int)", "long trace()",
     };
     private static final Set<String> CONSTANTS = Set.of("BAD", "STATE", "FULL", "NONE", "NO");
-    private static final Set<String> LIBRARY = Set.of(
-        "java/lang/Object.\"<init>\"", "java/lang/Math.max", "java/lang/Math.min", "java/lang/Integer.bitCount");
+    private static final Set<Class<?>> CONSTANT_TYPES = Set.of(int.class, long.class, boolean.class, char.class,
+        String.class, int[].class, long[].class, char[].class, byte[].class);
+    private static final Pattern LIBRARY = Pattern.compile(String.join("|",
+        "java/lang/Object\\.\"<init>\"",
+        "java/lang/(Math|Integer|Long)\\.(?!\\w*Exact\\b)\\w+",
+        "java/lang/String\\.(length|charAt|isEmpty|equals|indexOf|substring|toCharArray|\"<init>\")",
+        "java/lang/StringBuilder\\.(append|charAt|setCharAt|setLength|deleteCharAt|reverse|length|toString|\"<init>\")",
+        "java/util/(Array)?List\\.(add|get|set|remove|size|isEmpty|clear|iterator|of|\"<init>\")",
+        "java/util/Iterator\\.(hasNext|next)", "java/lang/System\\.arraycopy",
+        "java/util/Arrays\\.(copyOf|copyOfRange|fill)", "\"\\[\\S+\\.clone"));
     private static final int DEEPEST = 8;
 
     private RulesTest() {
@@ -105,7 +113,7 @@ public final class RulesTest {
             for (Field field : one.getDeclaredFields()) {
                 boolean isStatic = Modifier.isStatic(field.getModifiers());
                 Due.holds("a static field is a constant: " + field,
-                    !isStatic || Modifier.isFinal(field.getModifiers()) && field.getType() == int.class);
+                    !isStatic || Modifier.isFinal(field.getModifiers()) && CONSTANT_TYPES.contains(field.getType()));
                 fields += isStatic ? 0 : 1;
             }
             Due.holds("twenty fields at most: " + one, fields <= 20);
@@ -117,10 +125,7 @@ public final class RulesTest {
 
     private static void text(String source) {
         String code = source.replaceAll("(?s)/\\*.*?\\*/", "").replaceAll("//[^\\n]*", "");
-        String[] forbidden = {
-            "throw", "throws", "try", "catch", "synchronized", "assert", "import", "package", "Integer\\.[A-Z]",
-            "->", "::", "\"", "\\bdouble\\b", "while \\(true\\)", "for \\(;;\\)", "Object\\b", "null\\b",
-        };
+        String[] forbidden = {"throw", "throws", "try", "catch", "synchronized", "assert", "package"};
         for (String word : forbidden) {
             Due.holds("not in the text: " + word, !Pattern.compile("(?<!\\w)" + word + "(?!\\w)").matcher(code).find());
         }
@@ -137,7 +142,7 @@ public final class RulesTest {
         Due.holds("no method is longer than sixty lines: " + longest, longest > 20 && longest <= 60);
     }
 
-    // ---- the class files: who calls whom, and where something is made
+    // ---- the class files: who calls whom
 
     private static void byteCode(String folder) throws Exception {
         Map<String, Set<String>> calls = new HashMap<>();
@@ -176,14 +181,11 @@ public final class RulesTest {
                 }
             } else if (call.find()) {
                 String called = call.group(1).contains(".") ? call.group(1) : name + "." + call.group(1);
-                Due.holds("in the library: " + called, called.startsWith("QuietByYard") || LIBRARY.contains(called));
+                Due.holds("in the library: " + called, called.startsWith("QuietByYard") || LIBRARY.matcher(called).matches());
                 calls.get(method).add(called);
             }
-            if (line.matches(" *\\d+: (new|newarray|anewarray|multianewarray) .*")) {
-                Due.holds("made in a constructor: " + method + line, method.endsWith("\"<init>\""));
-            }
-            Due.holds("nothing is thrown, cast or locked: " + line,
-                !line.matches(" *\\d+: (athrow|checkcast|monitorenter|invokedynamic)\\b.*"));
+            Due.holds("nothing is thrown or locked, no lambda, no text by +: " + line,
+                !line.matches(" *\\d+: (athrow|monitorenter|invokedynamic)\\b.*"));
         }
     }
 
@@ -191,7 +193,6 @@ public final class RulesTest {
         int deepest = 0;
         open.add(method);
         for (String called : calls.getOrDefault(method, Set.of())) {
-            Due.holds("no recursion: " + called, !open.contains(called));
             // What the library does inside is its own affair.
             if (calls.containsKey(called) && !open.contains(called)) {
                 deepest = Math.max(deepest, depth(called, calls, open));
