@@ -81,6 +81,7 @@ public final class PromisesTest {
     }
 
     private static void promise1() {
+        Due.sentence("promise 1");
         QuietByYard yard = new QuietByYard();
         int[] counts = {3, 2, 5, 0, 0, 0, 0, 0, 0};
         for (int what = 0; what < counts.length; what++) {
@@ -99,6 +100,7 @@ public final class PromisesTest {
     }
 
     private static void promise2() {
+        Due.sentence("promise 2");
         QuietByYard yard = new QuietByYard();
         due("type 0", yard.type(0), 1);
         due("type 255", yard.type(255), 2);
@@ -116,6 +118,7 @@ public final class PromisesTest {
     }
 
     private static void promise3() {
+        Due.sentence("promise 3");
         QuietByYard yard = new QuietByYard();
         due("clear of nothing", yard.clear(), 0);
         Due.type(yard, "n0 5");
@@ -127,6 +130,7 @@ public final class PromisesTest {
     }
 
     private static void promise4() {
+        Due.sentence("promise 4");
         due("no text", fault(""), 0);
         due("blanks", fault("   "), 0);
         due("all items", fault(" g 4 3 ; f20;n0 1 0 0;n11 99 23 23;n5 50 0 23;s0 1 1 1;s30 3 3 9;s1 1 1 1;s1 1 1 1;"
@@ -139,6 +143,7 @@ public final class PromisesTest {
     }
 
     private static void promise4Faults() {
+        Due.sentence("promise 4: faults");
         String[] texts = {
             "x", "f5;x", ";", "5", "g", "g4", "g4 3", "g4 3 ", "g4 3;g", "f5;g4 3;", "n0 5 0 0;f1;f1;",
             "g0 1;", "g5 1;", "g1 0;", "g1 4;", "g1 1 1;", "f0;", "f21;", "f;", "f5", "f5 5;", "f100;", "f05;", "f00;",
@@ -169,6 +174,7 @@ public final class PromisesTest {
     }
 
     private static void promise4Anew() {
+        Due.sentence("promise 4: anew");
         QuietByYard yard = at("g4 2;f5;n0 60 0 23;s12 1 1 3;r3 0 23 30;");
         yard.lay(0, 1);
         yard.hour();
@@ -207,6 +213,7 @@ public final class PromisesTest {
     }
 
     private static void promises5To7() {
+        Due.sentence("promises 5 to 7");
         QuietByYard yard = at("n1 2 3 4;n5 99 0 23;s0 1 2 9;s30 3 1 4;r2 3 4 5;r0 0 0 99;");
         int[] noise = {1, 2, 3, 4};
         int[] sheet = {30, 3, 1, 4, NONE, 0, 30};
@@ -248,6 +255,7 @@ public final class PromisesTest {
     }
 
     private static void promise8() {
+        Due.sentence("promise 8");
         QuietByYard yard = at("g4 3;s5 2 2 1;s5 3 1 1;");
         yard.lay(1, 8);
         yard.lay(0, 1);
@@ -263,6 +271,7 @@ public final class PromisesTest {
     }
 
     private static void promise9() {
+        Due.sentence("promise 9");
         QuietByYard yard = at("g3 2;f5;n0 60 3 5;n5 40 5 6;s30 1 1 1;");
         due("where it is", yard.loud(0, 3), 60);
         due("a step", yard.loud(1, 3), 55);
@@ -288,6 +297,7 @@ public final class PromisesTest {
     }
 
     private static void promise9Leaks() {
+        Due.sentence("promise 9: leaks");
         QuietByYard yard = at("g4 1;f5;n0 90 0 0;s10 1 1 1;s7 1 1 1;s9 2 1 1;");
         yard.lay(0, 1);
         yard.lay(1, 2);
@@ -311,6 +321,7 @@ public final class PromisesTest {
     }
 
     private static void promise10() {
+        Due.sentence("promise 10");
         QuietByYard yard = at("s1 1 1 1;s1 1 1 1;s1 1 1 1;");
         yard.lay(2, 0);
         due("bits", yard.now(2), 4);
@@ -328,6 +339,7 @@ public final class PromisesTest {
     }
 
     private static void promise11() {
+        Due.sentence("promise 11");
         QuietByYard yard = at("g4 3;s1 2 2 1;s1 3 1 1;s1 1 3 1;s1 1 1 1;");
         due("beyond the row's end", yard.lay(0, 3), STATE);
         due("beyond the last row", yard.lay(0, 8), STATE);
@@ -353,6 +365,7 @@ public final class PromisesTest {
     }
 
     private static void promise12() {
+        Due.sentence("promise 12");
         QuietByYard yard = at("g4 3;s1 2 2 1;s1 1 1 1;");
         due("not laid", yard.lift(0), STATE);
         yard.lay(0, 6);
@@ -368,6 +381,7 @@ public final class PromisesTest {
     }
 
     private static void promise13() {
+        Due.sentence("promise 13");
         QuietByYard yard = at("g1 1;n0 90 0 0;s9 1 1 1;");
         yard.lay(0, 0);
         yard.hour();
@@ -384,6 +398,7 @@ public final class PromisesTest {
     }
 
     private static void promise14() {
+        Due.sentence("promise 14");
         QuietByYard yard = at("g3 1;f5;n0 60 0 0;n0 39 22 23;s20 2 1 1;s20 1 1 1;");
         yard.lay(0, 1);
         due("hour 1", yard.hour(), 1);
@@ -417,6 +432,7 @@ public final class PromisesTest {
     }
 
     private static void promise15() {
+        Due.sentence("promise 15");
         QuietByYard yard = at("g1 1;n0 90 0 23;s9 1 1 1;");
         due("none", yard.undo(), STATE);
         yard.lay(0, 0);
@@ -450,6 +466,7 @@ public final class PromisesTest {
     }
 
     private static void promise16() {
+        Due.sentence("promise 16");
         QuietByYard yard = at("g2 1;f5;n0 60 9 12;r1 0 10 55;r1 11 23 54;r0 0 9 59;s10 1 1 1;");
         due("the first room that is waked", yard.waked(0), 1);
         due("its first hour", yard.waked(1), 11);
@@ -473,6 +490,7 @@ public final class PromisesTest {
     }
 
     private static void promise17() {
+        Due.sentence("promise 17");
         QuietByYard yard = at("g2 1;f5;n0 50 0 0;s1 1 1 1;s1 1 1 1;s0 1 1 1;");
         due("none laid", yard.through(0), NONE);
         yard.lay(0, 0);
@@ -519,6 +537,7 @@ public final class PromisesTest {
     }
 
     private static void promise18() {
+        Due.sentence("promise 18");
         QuietByYard yard = at("g2 2;f5;n0 20 0 5;s5 1 1 2;s9 2 1 3;r3 0 5 9;");
         due("price", yard.toBuy(NONE), 2);
         due("on cell 3", yard.toBuy(0), 3);
@@ -558,6 +577,7 @@ public final class PromisesTest {
     }
 
     private static void promise18Ties() {
+        Due.sentence("promise 18: ties");
         QuietByYard edge = at("g4 3;f1;n1 20 0 0;n10 20 0 0;s9 1 1 3;s9 1 1 4;s9 1 1 5;s9 1 1 6;r0 0 0 10;r11 0 0 10;");
         due("in both corners", edge.toBuy(NONE), 7);
         due("on the first cell", edge.toBuy(0), 0);
@@ -592,6 +612,7 @@ public final class PromisesTest {
     }
 
     private static void promise19() {
+        Due.sentence("promise 19");
         QuietByYard yard = at("g3 1;f5;n0 60 2 3;n0 90 20 20;s10 1 1 1;s7 1 1 1;r2 0 5 0;r2 0 23 99;r1 5 9 0;");
         due("not laid", yard.gain(0), NO);
         yard.lay(0, 1);
@@ -613,6 +634,7 @@ public final class PromisesTest {
     }
 
     private static void promise20And21() {
+        Due.sentence("promises 20 and 21");
         QuietByYard yard = at("g2 1;");
         due("hear", yard.hear(0, 0), 1);
         due("hear 99", yard.hear(1, 99), 2);
@@ -639,6 +661,7 @@ public final class PromisesTest {
     }
 
     private static void promise22And23() {
+        Due.sentence("promises 22 and 23");
         QuietByYard yard = at("g3 1;f5;n0 99 0 23;s10 1 1 1;");
         due("anywhere", yard.sources(), 7);
         due("99 strengths", yard.strengths(0), 99);
@@ -679,6 +702,7 @@ public final class PromisesTest {
     }
 
     private static void promise24() {
+        Due.sentence("promise 24");
         QuietByYard yard = at("g3 1;f5;n0 99 0 23;s10 1 1 1;");
         due("no matter what else sounds", yard.hired(0, 2, 1), 11);
         due("at its own cell", yard.hired(1, 1, 7), 7);
@@ -700,6 +724,7 @@ public final class PromisesTest {
     }
 
     private static void promise25() {
+        Due.sentence("promise 25");
         QuietByYard yard = at("g3 3;f5;r4 5 6 20;");
         due("straight", yard.way(3, 5, 20), 2);
         due("around the room's cell: 24 beside it is 19", yard.way(3, 5, 24), 4);
@@ -725,6 +750,7 @@ public final class PromisesTest {
     }
 
     private static void promise26And27() {
+        Due.sentence("promises 26 and 27");
         QuietByYard yard = at("g4 1;f5;s10 1 1 1;s8 1 1 1;s3 1 1 1;");
         due("none laid", yard.mayBe(), 0);
         yard.lay(0, 1);
@@ -765,6 +791,7 @@ public final class PromisesTest {
     }
 
     private static void promise28() {
+        Due.sentence("promise 28");
         QuietByYard yard = at("g2 1;f5;n0 60 0 0;n0 50 5 5;n1 40 9 9;r1 20 20 44;r1 0 0 39;r1 0 0 99;");
         due("55 and 45 are too loud: 7 of 10 twice", yard.odds(0, 3, 0), 49);
         due("of 100", yard.odds(0, 3, 1), 100);
@@ -787,6 +814,7 @@ public final class PromisesTest {
     }
 
     private static void promise29And33() {
+        Due.sentence("promises 29 and 33");
         QuietByYard yard = at("g1 1;n0 95 0 23;s9 1 1 4;s8 1 1 5;");
         yard.lay(0, 0);
         yard.hour();
@@ -812,6 +840,7 @@ public final class PromisesTest {
     }
 
     private static void promise30And31() {
+        Due.sentence("promises 30 and 31");
         QuietByYard yard = at("g2 1;n0 95 0 23;s9 1 1 4;");
         for (int i = 0; i < 30; i++) {
             yard.hour();
@@ -881,6 +910,7 @@ public final class PromisesTest {
     }
 
     private static void promise32() {
+        Due.sentence("promise 32");
         QuietByYard yard = at("g4 1;f7;n0 1 0 0;n0 1 0 0;s1 1 1 1;s1 1 1 1;s1 1 1 1;r0 0 0 0;");
         yard.hear(0, 0);
         yard.hear(0, 0);

@@ -39,6 +39,7 @@ public final class Terms1Test {
         noiseCell();
         noiseHours();
         noiseHoursInOrder();
+        noiseNumbers();
         sheetsAtMost();
         thick();
         sheetWide();
@@ -49,6 +50,7 @@ public final class Terms1Test {
         roomHours();
         roomHoursInOrder();
         most();
+        roomNumbers();
     }
 
     private static void tokens() {
@@ -124,6 +126,14 @@ public final class Terms1Test {
         }
         for (int c = 0; c < ofTwoWide.length; c++) {
             due("g2 3: loud at " + c, two.loud(c, 0), ofTwoWide[c]);
+        }
+        four = told("g4 3;f1;n11 90 0 0;");
+        two = told("g2 3;f1;n5 90 0 0;");
+        for (int c = 0; c < ofFourWide.length; c++) {
+            due("g4 3: from the last cell, loud at " + c, four.loud(c, 0), ofFourWide[11 - c]);
+        }
+        for (int c = 0; c < ofTwoWide.length; c++) {
+            due("g2 3: from the last cell, loud at " + c, two.loud(c, 0), ofTwoWide[5 - c]);
         }
     }
 
@@ -273,6 +283,22 @@ public final class Terms1Test {
         due("the same: to", yard.noise(0, 3), 5);
     }
 
+    private static void noiseNumbers() {
+        Due.sentence("Of a NOISE: 0 CELL, 1 STRENGTH, 2, 3 HOURS. BAD");
+        QuietByYard yard = told("n5 99 0 23;n1 2 3 4;");
+        int[] first = {5, 99, 0, 23};
+        int[] second = {1, 2, 3, 4};
+        for (int what = 0; what < 4; what++) {
+            due("noise 0 " + what, yard.noise(0, what), first[what]);
+            due("noise 1 " + what, yard.noise(1, what), second[what]);
+        }
+        due("noise 0 4", yard.noise(0, 4), BAD);
+        due("noise 0 -1", yard.noise(0, -1), BAD);
+        due("noise 2 0", yard.noise(2, 0), BAD);
+        due("noise -1 0", yard.noise(-1, 0), BAD);
+        due("no noise in a new object", new QuietByYard().noise(0, 0), BAD);
+    }
+
     private static void sheetsAtMost() {
         Due.sentence("SHEETS 0 .. (4 at most)");
         QuietByYard yard = told("f1;");
@@ -363,6 +389,22 @@ public final class Terms1Test {
         fault("r0 0 0 100;", 7);
         due("least", told("r0 0 0 0;").room(0, 3), 0);
         due("greatest", told("r0 0 0 99;").room(0, 3), 99);
+    }
+
+    private static void roomNumbers() {
+        Due.sentence("Of a ROOM: 0 CELL, 1, 2 HOURS, 3 MOST. BAD");
+        QuietByYard yard = told("r5 0 23 99;r1 2 3 4;");
+        int[] first = {5, 0, 23, 99};
+        int[] second = {1, 2, 3, 4};
+        for (int what = 0; what < 4; what++) {
+            due("room 0 " + what, yard.room(0, what), first[what]);
+            due("room 1 " + what, yard.room(1, what), second[what]);
+        }
+        due("room 0 4", yard.room(0, 4), BAD);
+        due("room 0 -1", yard.room(0, -1), BAD);
+        due("room 2 0", yard.room(2, 0), BAD);
+        due("room -1 0", yard.room(-1, 0), BAD);
+        due("no room in a new object", new QuietByYard().room(0, 0), BAD);
     }
 
     // ---- the text and its tokens

@@ -415,6 +415,18 @@ public final class Terms2Test {
         due("2 5 8 7", yard.loud(7, 0), 57);
         due("2 5 8 7 6", yard.loud(6, 0), 26);
         due("behind both", yard.loud(0, 0), 28);
+        yard = told("g3 3;f1;n6 60 0 0;n8 60 1 1;s30 1 2 1;");
+        yard.lay(0, 4);
+        due("up, along and down: 6 3 0 1 2 5 8", yard.loud(8, 0), 54);
+        due("and back", yard.loud(6, 1), 54);
+        yard = told("g3 3;f1;n0 60 0 0;n2 60 1 1;s30 1 2 1;");
+        yard.lay(0, 1);
+        due("down, along and up: 0 3 6 7 8 5 2", yard.loud(2, 0), 54);
+        due("and back", yard.loud(0, 1), 54);
+        yard = told("g3 3;f1;n0 60 0 0;n6 60 1 1;s30 2 1 1;");
+        yard.lay(0, 3);
+        due("along, down and back: 0 1 2 5 8 7 6", yard.loud(6, 0), 54);
+        due("and back", yard.loud(0, 1), 54);
     }
 
     private static void nothingAtLeast() {

@@ -198,6 +198,10 @@ public final class Terms3NoisesTest {
         due("1 where it is", yard.strengths(0), 1);
         due("6 beside it", yard.strengths(1), 1);
         due("either", yard.sources(), 3);
+        yard.forget(0);
+        yard.hear(0, 0);
+        due("beside it 1 to 5, not 0", yard.strengths(1), 5);
+        due("where it is 0 is none", yard.strengths(0), 0);
     }
 
     private static void strengthsToNinetyNine() {
@@ -695,6 +699,8 @@ public final class Terms3NoisesTest {
     private static void oddsWithoutHours() {
         Due.sentence("ODDS (no HOURS are asked)");
         dueOdds(told("g1 1;n0 60 5 5;n0 60 9 9;r0 20 20 0;"), 0, 5, 1, 4);
+        dueOdds(told("g1 1;n0 60 5 5;n0 60 9 9;r0 2 2 0;"), 0, 5, 1, 4);
+        dueOdds(told("g1 1;n0 60 5 5;n0 60 9 9;r0 9 9 0;"), 0, 5, 1, 4);
     }
 
     private static void oddsRefused() {

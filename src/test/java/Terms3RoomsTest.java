@@ -137,7 +137,9 @@ public final class Terms3RoomsTest {
         QuietByYard yard = told("g1 1;n0 60 5 5;n0 60 20 20;r0 0 23 0;");
         pass(yard, 6);
         due("behind it, of the day", yard.waked(1), 5);
-        pass(yard, 17);
+        pass(yard, 14);
+        due("in hour 20, which is loud, too", yard.waked(1), 5);
+        pass(yard, 3);
         due("in hour 23", yard.waked(1), 5);
         pass(yard, 1);
         due("the day after", yard.waked(1), 5);
