@@ -186,6 +186,9 @@ public final class Terms1Test {
         QuietByYard yard = new QuietByYard();
         due("new: w", yard.count(0), 3);
         due("new: h", yard.count(1), 2);
+        due("new: three steps to the last cell", yard.way(0, 5, 1), 3);
+        due("new: three steps of 5", yard.hired(0, 5, 1), 16);
+        due("new: 2 is not next to 3", yard.way(2, 3, 1), 3);
         yard = told("g4 1;");
         Due.type(yard, "f1;n0 50 0 0;n5 5 1 1;");
         due("told anew without g", yard.house(), 3);

@@ -309,6 +309,8 @@ public final class Terms3RoomsTest {
         Due.sentence("TO BUY: the PRICE, if all ROOMS are STILL");
         dueBought(told(""), "empty", 0);
         dueBought(told("g1 1;n0 60 0 23;s1 1 1 1;r0 0 23 60;"), "still", 0, NOT_BOUGHT);
+        dueBought(told("s1 1 1 1;s1 1 1 1;s1 1 1 1;s1 1 1 1;r0 0 23 0;"), "still, by none of four", 0,
+            NOT_BOUGHT, NOT_BOUGHT, NOT_BOUGHT, NOT_BOUGHT);
         QuietByYard yard = told("g2 1;f1;n0 60 0 23;s1 1 1 1;s1 1 1 1;r1 0 23 58;");
         yard.lay(0, 1);
         dueBought(yard, "still by what lies there", 0, BAD, NOT_BOUGHT);
